@@ -415,7 +415,7 @@ public final class SandBench {
             return cells[eventCell(cells[EVENTS_EVER] - 1 - later) + part];
         }
 
-        /** Makes so many plain glasses that stand alone; those that were there keep their amounts. */
+        /** So many plain glasses, each alone; those that were there keep their amounts. */
         void renew(int glasses) {
             int old = cells[GLASSES];
             cells[GLASSES] = glasses;
@@ -674,7 +674,7 @@ public final class SandBench {
             return fault;
         }
 
-        /** Reads steps up to what can't begin one: a parenthesis that closes, the end, or a fault. */
+        /** Ends at what can't begin a step: a parenthesis that closes, the end, or a fault. */
         private void readSteps(int level) {
             for (int i = 0; i < LONGEST && fault == NONE && isStepAhead(); i++) {
                 readStep(level);
@@ -816,7 +816,7 @@ public final class SandBench {
 
         /** What the tables were made for; they stay while only sand runs or is turned. */
         private int shape = NONE;
-        /** The amounts, in four bits a glass; 0 for glasses that lie, as nothing depends on them. */
+        /** The amounts, four bits a glass; 0 for glasses that lie, as nothing depends on them. */
         private int full;
         /** For each set of stacks the bits of the glasses that turn with it. */
         private final int[] turned = new int[SETS];
