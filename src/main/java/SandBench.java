@@ -265,21 +265,15 @@ public final class SandBench {
 
     /** False, with nothing done, where the script ends ahead of the step. */
     private boolean perform(int letter, int number) {
-        switch (letter) {
-            case 't':
-                bench.turnStackOf(number);
-                return true;
-            case 'k':
-                bench.tapGlass(number);
-                return true;
-            case 'w':
-                return passInTime(number);
-            default:
-                return passInTime(bench.secondsToEvent());
+        if (letter == 't') {
+            bench.turnStackOf(number);
+            return true;
         }
-    }
-
-    private boolean passInTime(int seconds) {
+        if (letter == 'k') {
+            bench.tapGlass(number);
+            return true;
+        }
+        int seconds = letter == 'w' ? number : bench.secondsToEvent();
         if (!bench.hasTimeFor(seconds)) {
             return false;
         }
@@ -779,10 +773,10 @@ public final class SandBench {
 
         /** Passes over blanks and returns the byte behind them, NONE at the end of the text. */
         private int peek() {
-            while (at < length && byteAt(at) == ' ') {
+            while (at < length && bytes[at] == ' ') {
                 at++;
             }
-            return byteAt(at);
+            return at < length ? bytes[at] : NONE;
         }
 
         private static boolean isDigit(int letter) {

@@ -33,7 +33,7 @@ public final class LanguageTest {
 
     public static void main(String[] args) throws IOException {
         face();
-        insideClasses();
+        insideClasses(SandBench.class.getDeclaredClasses());
         source(Files.readString(Path.of("src/main/java/SandBench.java")));
         CHECKS.end();
     }
@@ -73,8 +73,7 @@ public final class LanguageTest {
                 && Modifier.isPublic(constructors[0].getModifiers()));
     }
 
-    private static void insideClasses() {
-        Class<?>[] inside = SandBench.class.getDeclaredClasses();
+    private static void insideClasses(Class<?>[] inside) {
         CHECKS.holds("at most some twelve classes", inside.length < 12);
         for (Class<?> one : inside) {
             CHECKS.holds("static and not public: " + one, Modifier.isStatic(one.getModifiers())
@@ -82,6 +81,10 @@ public final class LanguageTest {
             long fields = Arrays.stream(one.getDeclaredFields())
                     .filter(field -> !Modifier.isStatic(field.getModifiers())).count();
             CHECKS.holds("at most some twenty fields: " + one, fields <= 20);
+            for (Method method : one.getDeclaredMethods()) {
+                CHECKS.holds("no name of the face: " + method, FACE.stream()
+                        .noneMatch(face -> face.contains(" " + method.getName() + "(")));
+            }
             for (Field field : one.getDeclaredFields()) {
                 CHECKS.holds("static fields are final: " + field,
                         !Modifier.isStatic(field.getModifiers())
