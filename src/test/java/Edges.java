@@ -82,8 +82,8 @@ abstract class Edges {
     }
 
     static void passUntil(SandBench bench, int time) {
-        while (bench.count(2) < time) {
-            bench.pass(Math.min(999, time - bench.count(2)));
+        for (int left = time - bench.count(2); left > 0; left -= 999) {
+            bench.pass(Math.min(999, left));
         }
     }
 

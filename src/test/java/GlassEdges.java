@@ -358,13 +358,32 @@ final class GlassEdges extends Edges {
 
     void fixMovesNoSand() {
         says(FIX, "they become one stack");
+        int[][] fixes = {{0, 1}, {1, 0}};
+        for (int[] fix : fixes) {
+            SandBench bench = sticky(12, 2);
+            bench.pass(2);
+            bench.fix(fix[0], fix[1]);
+            stuckWithTenAbove(bench);
+            due("turns", bench.count(6), 1);
+        }
+    }
+
+    void loosenMovesNoSand() {
+        says(LOOSEN, "Makes each glass of the stack of a glass a stack of its own");
         SandBench bench = sticky(12, 2);
+        bench.fix(0, 1);
         bench.pass(2);
-        due("stuck", bench.glass(0, 4), 1);
-        bench.fix(1, 0);
+        bench.loosen(0);
+        stuckWithTenAbove(bench);
+        bench.fix(0, 1);
+        bench.loosen(1);
+        stuckWithTenAbove(bench);
+    }
+
+    private void stuckWithTenAbove(SandBench bench) {
         due("still stuck", bench.glass(0, 4), 1);
-        glasses(bench, 1, 10, 0, 0);
         due("its count", bench.glass(0, 6), 2);
+        glasses(bench, 1, 10, 0, 0);
     }
 
     void loosenNoGlass() {

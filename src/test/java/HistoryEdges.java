@@ -226,6 +226,15 @@ final class HistoryEdges extends Edges {
         due("undo()", bench.undo(), STATE);
     }
 
+    void lastOf512Calls() {
+        says("What it is", "An object is used for at most 512 calls after it has been made");
+        SandBench bench = new SandBench();
+        for (int call = 1; call < 512; call++) {
+            due("turn(0), call " + call, bench.turn(0), call % 2 == 0 ? 0 : 3);
+        }
+        due("count(6)", bench.count(6), 511);
+    }
+
     void allOfAStateIsRestored() {
         says(CHANGES, "each change records the state before it (glasses, stacks, time, events, mark,"
                 + " numbers of turns and taps)");

@@ -1,3 +1,6 @@
+import java.util.ArrayList;
+import java.util.List;
+
 /** cost(), planned() and measurable(): promises 19 to 21, and what plans are. */
 final class PlanEdges extends Edges {
     private static final String COST = "Promise 19: cost";
@@ -160,6 +163,48 @@ final class PlanEdges extends Edges {
         due("cost(1) behind undo()", bench.cost(1), 0);
     }
 
+    void plansFollowTheAmounts() {
+        says(SPANS, "begins with the glasses as they are now");
+        SandBench bench = new SandBench();
+        for (int i = 0; i < 24; i++) {
+            SandBench fresh = new SandBench();
+            for (int g = 0; g < 3; g++) {
+                int units = 1 + i * (g + 1) % 12;
+                bench.setAmount(g, units);
+                fresh.setAmount(g, units);
+            }
+            for (int span = 3; span <= 40; span += 3) {
+                due("cost(" + span + ") of amounts " + i, bench.cost(span), fresh.cost(span));
+            }
+            due("measurable(-1, 9) of amounts " + i, bench.measurable(-1, 9),
+                    fresh.measurable(-1, 9));
+        }
+    }
+
+    void plansFollowEveryChange() {
+        says(SPANS, "begins with the glasses as they are now");
+        SandBench bench = new SandBench();
+        costs(bench, NONE, NONE, 1, NONE, 1, 2, 4, 1);
+        bench.fix(0, 2);
+        due("the set that turns the 8 of a stack", bench.planned(8, 0, true), 1);
+        bench.loosen(0);
+        due("the set that turns the 8", bench.planned(8, 0, true), 4);
+        bench.setKind(2, 2, 3);
+        due("cost(8) of 3 and 5", bench.cost(8), 2);
+        bench.setKind(2, 0, 3);
+        due("cost(8) of 3, 5 and 8", bench.cost(8), 1);
+        bench.setGlasses(1);
+        costs(bench, NONE, NONE, 1, NONE, NONE, 2, NONE, NONE, 3);
+        bench.undo();
+        costs(bench, NONE, NONE, 1, NONE, 1, 2, 4, 1);
+        bench.setAmount(0, 2);
+        costs(bench, NONE, 1, NONE, 2, 1, 3);
+        bench.setGlasses(3);
+        bench.turn(1);
+        bench.pass(4);
+        costs(bench, 0, 1);
+    }
+
     void planAtTheEndOfTime() {
         says(SPANS, "A plan for a span of n seconds begins with the glasses as they are now");
         SandBench bench = at(9999);
@@ -208,6 +253,46 @@ final class PlanEdges extends Edges {
         due("cost(7) of three stacks", new SandBench().cost(7), 4);
     }
 
+    void greatestAmounts() {
+        says("Glasses", "A glass has an amount of sand, 1 to 12 units");
+        // The most moments, and the most moments and costs together.
+        int[][] benches = {{12, 12, 12, 0}, {11, 12, 12, 1}, {12, 11, 12, 1}, {12, 11, 10, 0}};
+        for (int[] amounts : benches) {
+            SandBench bench = new SandBench();
+            for (int g = 0; g < 3; g++) {
+                bench.setAmount(g, amounts[g]);
+            }
+            if (amounts[3] == 1) {
+                bench.fix(0, 1);
+            }
+            for (int seconds = 1; seconds <= 3; seconds++) {
+                comparePlans(bench);
+                bench.turn(seconds - 1);
+                bench.pass(seconds);
+            }
+            comparePlans(bench);
+        }
+    }
+
+    private void comparePlans(SandBench bench) {
+        List<ReferencePlans.Sand> sands = new ArrayList<>();
+        for (int g = 0; g < 3; g++) {
+            sands.add(new ReferencePlans.Sand(bench.glass(g, 0), bench.glass(g, 1), false,
+                    bench.glass(g, 5)));
+        }
+        for (int span = 1; span <= 40; span++) {
+            ReferencePlans.Plan best = ReferencePlans.best(sands, span);
+            due("cost(" + span + ") of " + sands, bench.cost(span),
+                    best == null ? NONE : best.cost());
+            int steps = best == null ? 0 : best.steps().size();
+            for (int i = 0; i < steps; i++) {
+                due("set " + i + " of " + span + " of " + sands, bench.planned(span, i, true),
+                        best.steps().get(i).set());
+            }
+            noStep(bench, span, steps);
+        }
+    }
+
     void leastSequenceOfSets() {
         says(SPANS, "The best plan has the least cost; of several it is the one with the least"
                 + " sequence of sets, from its beginning on, where a set counts as the sum of the"
@@ -222,6 +307,39 @@ final class PlanEdges extends Edges {
         plan(bench, 8, new int[] {2, 2}, new int[] {0, 4});
         bench.setKind(1, 2, 3);
         plan(bench, 8, new int[] {4, 4}, new int[] {0, 4});
+    }
+
+    void leastCostAheadOfTheLeastSequence() {
+        says(SPANS, "The best plan has the least cost");
+        SandBench bench = new SandBench();
+        for (int g = 0; g < 3; g++) {
+            bench.setAmount(g, g + 1);
+        }
+        // Glass 0, turned again and again, would be a lesser sequence, but of a greater cost.
+        plan(bench, 3, new int[] {4}, new int[] {0});
+        plan(bench, 4, new int[] {1, 4}, new int[] {0, 1});
+        plan(bench, 5, new int[] {2, 4}, new int[] {0, 2});
+        plan(bench, 6, new int[] {4, 4}, new int[] {0, 3});
+        plan(bench, 7, new int[] {1, 4, 4}, new int[] {0, 1, 4});
+    }
+
+    void setsOfSeveralStacks() {
+        says(SPANS, "any set of stacks is turned");
+        SandBench bench = new SandBench();
+        // 6 and 8 run; the 3 begin when the 6 end, and are turned back when the 8 end.
+        bench.setAmount(1, 6);
+        plan(bench, 10, new int[] {6, 1, 1}, new int[] {0, 6, 8});
+        due("cost(10)", bench.cost(10), 4);
+        bench.setAmount(1, 1);
+        bench.setAmount(0, 1);
+        // A single unit tells when 3 of the 8 have gone; then they are turned back.
+        plan(bench, 6, new int[] {5, 1, 1, 4}, new int[] {0, 1, 2, 3});
+        due("cost(6)", bench.cost(6), 5);
+        bench.setAmount(0, 4);
+        bench.setAmount(1, 5);
+        bench.setAmount(2, 5);
+        plan(bench, 7, new int[] {7, 2, 2}, new int[] {0, 4, 5});
+        due("cost(7)", bench.cost(7), 5);
     }
 
     void laterTurnIsTheLeastSequence() {
