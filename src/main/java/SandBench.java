@@ -866,7 +866,8 @@ public final class SandBench {
             int place = START;
             int left = span;
             int cost = leastCost(span);
-            for (int i = 0; i <= step && left > 0 && cost >= 0; i++) {
+            // A step takes a second at least: there are no more steps than the span has seconds.
+            for (int i = 0; i < span && left > 0 && cost >= 0; i++) {
                 int chosen = leastSet(place, left, cost);
                 if (chosen == NONE) {
                     return NONE;

@@ -10,6 +10,7 @@ import java.util.HashSet;
 import java.util.List;
 import java.util.Set;
 import java.util.TreeSet;
+import java.util.regex.Matcher;
 import java.util.regex.Pattern;
 
 /** The face of the class, and those rules of ../shared/LANGUAGE.md that can be told from a text. */
@@ -27,6 +28,11 @@ public final class LanguageTest {
             "\\bpackage\\b", "\\bThread\\b", "\\bSystem\\.(?!arraycopy)", "Exact\\b",
             "\\b(equals|hashCode|toString)\\b", "\\bInteger\\.[A-Z]", "\\bLong\\.[A-Z]", "\\?>",
             "import (?!java\\.util\\.(Arrays|ArrayList|List|Iterator);)", "\\bstatic \\{");
+
+    private static final Pattern LAST_OF_LOOP =
+            Pattern.compile("\\b(?:for|while) \\([^\n]*?<= ([\\w.]+)[^\n]*");
+    /** A cost is looked at against the most that there is, and the sands of full glasses are few. */
+    private static final Set<String> SMALL = Set.of("cost", "full");
 
     private LanguageTest() {
     }
@@ -99,6 +105,16 @@ public final class LanguageTest {
                 .replaceAll("\"(\\\\.|[^\"\\\\])*\"", "\"\"");
         for (String rule : RULED_OUT) {
             CHECKS.holds("without " + rule, !Pattern.compile(rule).matcher(code).find());
+        }
+        loops(code);
+    }
+
+    /** Counting on while i <= n has no end for the greatest n, so n can't be what a caller gives. */
+    private static void loops(String code) {
+        for (Matcher bound = LAST_OF_LOOP.matcher(code); bound.find();) {
+            CHECKS.holds("a bound that is small: " + bound.group(),
+                    bound.group(1).matches("\\d+|([A-Z]\\w+\\.)?[A-Z_]+")
+                            || SMALL.contains(bound.group(1)));
         }
     }
 }
